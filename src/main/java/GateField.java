@@ -964,7 +964,7 @@ public final class GateField {
             Arrays.fill(inputLevel, 0);
         }
 
-        /** LUTs that the field has no room for are counted alone: that they are too many is told. */
+        /** LUTs that the field has no room for are counted alone, so that they can be refused. */
         int addLut(int[] source, int width, int bits) {
             if (luts < most) {
                 for (int p = 0; p < PINS; p++) {
@@ -1515,7 +1515,7 @@ public final class GateField {
             Arrays.fill(distance, NONE);
         }
 
-        /** What comes first is nearest already: a wire's way is its own cost and one neighbour's. */
+        /** A wire comes once: its way is its own cost behind one neighbour's, the nearest first. */
         void push(int wire, int far) {
             if (distance[wire] != NONE || size >= heap.length) {
                 return;
