@@ -62,8 +62,38 @@ public final class AnyArgumentsTest {
         for (int k = 0; k < most; k++) f.flip(r.nextInt(f.look(11)));
     }
 
+    /** The fullest fields there are: all bits 1, and texts with as much as may be. */
+    private static void full(int c, int rows, int e, int t) {
+        GateField f = new GateField(c, rows, e, t);
+        for (int i = 0; i < f.look(11); i++) f.flip(i);
+        f.start();
+        f.tick(3);
+        for (int w = 0; w < f.look(10); w++) f.probe(0, w);
+        StringBuilder text = new StringBuilder(".inputs");
+        int inputs = Math.min(f.look(9) - 2, 10);
+        for (int i = 0; i < inputs; i++) text.append(" ").append((char) ('a' + i));
+        for (int g = 0; g < c * rows * e && g < 140; g++) {
+            text.append("\n.names");
+            for (int i = 0; i < 4; i++) text.append(" ").append((char) ('a' + (g + i * i) % inputs));
+            text.append(" ").append((char) ('A' + g % 26)).append(g / 26).append("\n1111 1");
+        }
+        text.append("\n.outputs");
+        int made = Math.min(26, c * rows * e);
+        for (int o = inputs; o < f.look(9); o++) text.append(" ").append((char) ('A' + (o - inputs) % made)).append(0);
+        int fault = Texts.compile(f, text.toString());
+        if (fault != 0) throw new IllegalStateException("fault " + fault + " at " + f.look(0) + " in " + text);
+        f.shake(99, 1000);
+        for (int r = 1; r <= 20; r += 6) if (f.route(r) > 0) f.burn();
+        f.tick(1000);
+    }
+
     public static void main(String[] args) {
         int wrong = 0;
+        for (int c = 1; c <= 6; c++)
+            for (int e = 1; e <= 4; e++) full(c, 7 - c, e, 10 - c);
+        full(6, 6, 4, 10);
+        full(1, 1, 1, 10);
+        full(6, 6, 4, 1);
         for (int seed = 0; seed < 400; seed++) {
             Random r = new Random(seed);
             try {

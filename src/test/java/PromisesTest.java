@@ -146,7 +146,13 @@ public final class PromisesTest {
         due("nothing compiled then", f.look(1), NONE);
         due("nothing compiled then", f.lut(0, 4), NONE);
         due("nothing compiled then", f.tile(0), NONE);
+        due("nothing compiled then", f.element(0, 2), NONE);
+        due("nothing compiled then", f.net(0, 0), NONE);
+        due("nothing compiled then", f.pad(0), NONE);
         due("nothing compiled then", f.drive(0, true), false);
+        due("nothing compiled then", f.clock(0), false);
+        due("nothing compiled then", f.out(1), NONE);
+        for (int s : new int[] {0, 200, 400}) due("nothing compiled then", f.value(s), NONE);
         f = burnt();
         f.drive(0, true);
         f.clock(3);
@@ -192,6 +198,7 @@ public final class PromisesTest {
         fault(f, ".names y\n1 1", 1, 11);
         fault(f, ".names y\n-", 1, 9);
         fault(f, ".names y\n\n # x\n1", 0, NONE);
+        fault(f, "1", 1, 0);
         fault(f, ".names y\n1\n1\n0", 3, 13);
         fault(f, ".inputs a\n1 1", 1, 10);
         String head = ".inputs a\n.names a y\n";
@@ -213,6 +220,9 @@ public final class PromisesTest {
         fault(f, ".inputs .bcdefghijklm", 1, 8);
         fault(f, ".inputs a a", 3, 10);
         fault(f, ".inputs a\n.latch a a", 3, 19);
+        fault(f, ".inputs a\n.latch a a 2", 3, 19);
+        fault(f, ".latch thirteenbytes .q", 2, 7);
+        fault(f, ".latch .d thirteenbytes", 1, 7);
         fault(f, ".inputs a\n.names a", 3, 17);
         fault(f, ".latch a a\n.inputs a", 3, 19);
         fault(f, ".names a\n.names a", 3, 16);
@@ -652,6 +662,7 @@ public final class PromisesTest {
             due("none such", f.probe(what, what == 0 ? 4 : what == 1 ? 8 : 1), NONE);
         }
         joints();
+        lutsFirst();
         numbersOfNoWire();
         longChain();
     }
@@ -677,12 +688,25 @@ public final class PromisesTest {
         due("still", f.probe(0, 1), 1);
     }
 
+    /** A LUT that drives its own pin holds nothing: all are 0 before the field settles. */
+    private static void lutsFirst() {
+        GateField f = new GateField(1, 1, 1, 1);
+        flips(f, 1, 3, 5, 7, 9, 11, 13, 15, 18, 42, 46, 52);
+        due("0", f.probe(2, 0), 0);
+        f.level(0, true);
+        due("by the pad", f.probe(2, 0), 1);
+        f.level(0, false);
+        due("0 again", f.probe(2, 0), 0);
+    }
+
     private static void numbersOfNoWire() {
         GateField f = new GateField(1, 1, 1, 1);
         flips(f, 46, 52, 0, 20);
         f.level(0, true);
         due("pin 0 at the side right", f.probe(2, 0), 1);
-        f.flip(0);
+        f.flip(110);
+        due("that side is joined", f.probe(2, 0), 0);
+        flips(f, 0, 110);
         flips(f, 1, 3, 5, 7, 9, 11, 13, 15, 20, 18);
         due("pin 0 below", f.probe(2, 0), 1);
         f.flip(20);

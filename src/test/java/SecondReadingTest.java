@@ -73,8 +73,9 @@ public final class SecondReadingTest {
     }
 
     private void values() {
-        for (int s = -1; s < 600; s += s < 50 || s >= 195 && s < 360 || s > 395 ? 1 : 20)
-            same("value " + s, x.value(s), y.value(s));
+        int[] more = {Math.max(0, y.look(1)), Math.max(0, y.look(2)), Math.max(0, y.look(3))};
+        for (int k = 0; k < 3; k++)
+            for (int s = -1; s < more[k] + 8; s++) same("value " + (200 * k + s), x.value(200 * k + s), y.value(200 * k + s));
         for (int o = -1; o <= Math.max(0, y.look(4)); o++) same("out " + o, x.out(o), y.out(o));
     }
 
