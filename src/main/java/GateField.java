@@ -1153,6 +1153,7 @@ public final class GateField {
      */
     private static final class Packing {
         static final int FOLLOW = 43690;
+        static final int MOST_TOUCHED = PINS + 1;
 
         final Grid grid;
         final Circuit circuit;
@@ -1167,6 +1168,7 @@ public final class GateField {
         final int[] firstSink;
         final int[] sink;
         final int[] sinkThing;
+        final int[] touched;
         final int[] mark;
         int elements;
         int clusters;
@@ -1188,6 +1190,7 @@ public final class GateField {
             firstSink = new int[mostNets + 1];
             sink = new int[mostSinks];
             sinkThing = new int[mostSinks];
+            touched = new int[most * MOST_TOUCHED];
             mark = new int[mostNets];
         }
 
@@ -1204,6 +1207,7 @@ public final class GateField {
             }
             setNets();
             setSinks();
+            setTouched();
             setClusters();
             setThings();
             return true;
@@ -1292,6 +1296,20 @@ public final class GateField {
             uses[source]++;
         }
 
+        /** Of an element each net once (the rest NONE): what it makes, then those of its pins. */
+        private void setTouched() {
+            for (int i = 0; i < elements * MOST_TOUCHED; i++) {
+                int e = i / MOST_TOUCHED;
+                int k = i % MOST_TOUCHED;
+                int source = k == 0 ? madeSource(e) : pinSource(e, k - 1);
+                int n = source == NONE ? NONE : netOf[source];
+                for (int h = i - k; h < i; h++) {
+                    n = touched[h] == n ? NONE : n;
+                }
+                touched[i] = n;
+            }
+        }
+
         private void setClusters() {
             Arrays.fill(cluster, NONE);
             Arrays.fill(mark, NONE);
@@ -1315,18 +1333,11 @@ public final class GateField {
             }
             cluster[e] = clusters - 1;
             place[e] = k;
-            for (int i = 0; i <= PINS; i++) {
-                int n = touched(e, i);
-                if (n != NONE) {
-                    mark[n] = clusters;
+            for (int i = e * MOST_TOUCHED; i < (e + 1) * MOST_TOUCHED; i++) {
+                if (touched[i] != NONE) {
+                    mark[touched[i]] = clusters;
                 }
             }
-        }
-
-        /** The i-th net that an element touches: what it makes, then those of its pins. */
-        private int touched(int e, int i) {
-            int source = i == 0 ? madeSource(e) : pinSource(e, i - 1);
-            return source == NONE ? NONE : netOf[source];
         }
 
         private int closest(int first) {
@@ -1346,13 +1357,8 @@ public final class GateField {
 
         private int sharedNets(int e) {
             int shared = 0;
-            for (int i = 0; i <= PINS; i++) {
-                int n = touched(e, i);
-                boolean again = n == NONE || mark[n] != clusters;
-                for (int k = 0; k < i && !again; k++) {
-                    again = touched(e, k) == n;
-                }
-                if (!again) {
+            for (int i = e * MOST_TOUCHED; i < (e + 1) * MOST_TOUCHED; i++) {
+                if (touched[i] != NONE && mark[touched[i]] == clusters) {
                     shared++;
                 }
             }
