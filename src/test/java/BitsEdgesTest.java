@@ -10,12 +10,12 @@ public final class BitsEdgesTest extends Edges {
                 BitsEdgesTest::padKinds);
         of("4 bits: of an output 1 + t of its END, else 0", BitsEdgesTest::padEnds);
         of("for each track 1 if the input drives it.", BitsEdgesTest::padDrives);
-        of("Then CORNERS, (0, 0), (1, 0), ..: for each track 6 bits: left and right wire JOINED, left and lower, left and "
-                + "upper, right and lower, right and upper, lower and upper (0 where there is none such).",
+        of("Then CORNERS, (0, 0), (1, 0), ..: for each track 6 bits: left and right wire JOINED, left and lower, "
+                + "left and upper, right and lower, right and upper, lower and upper (0 where there is none such).",
                 BitsEdgesTest::corners);
-        of("BURNING writes the BITS of what was routed (where there is no ELEMENT, a CLUSTER's places being by the order "
-                + "in which ELEMENTS came to it: 0s; the 6 bits of a pin without a source 0, the TABLE whole).",
-                BitsEdgesTest::burning);
+        of("BURNING writes the BITS of what was routed (where there is no ELEMENT, a CLUSTER's places being by the "
+                + "order in which ELEMENTS came to it: 0s; the 6 bits of a pin without a source 0, the TABLE "
+                + "whole).", BitsEdgesTest::burning);
         close("BITS");
     }
 
@@ -52,7 +52,7 @@ public final class BitsEdgesTest extends Edges {
             due("used, " + e, b.f.bit(b.used(e)), used[e]);
             due("INITIAL of " + e, b.f.bit(b.initial(e)), initial[e]);
         }
-        Board last = burnt(with(many("n", 3).replace(" ", "\n.names ") + "\n1", 3, 1, 1, 1), 3, 1, 1, 1, 1);
+        Board last = burnt(with(luts(3) + "\n1", 3, 1, 1, 1), 3, 1, 1, 1, 1);
         due("the last ELEMENT of the last TILE", last.get(last.element(2), 16), 65535);
         due("the first one", last.get(last.element(0), 16), 0);
     }

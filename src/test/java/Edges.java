@@ -89,6 +89,16 @@ abstract class Edges {
         return b.toString();
     }
 
+    /** Lines with as many .names without INS: n0, n1, .. */
+    static String luts(int count) {
+        return many("n", count).replace(" ", "\n.names ");
+    }
+
+    /** Lines with as many latches, q0 the D of all: q0, q1, .. */
+    static String latches(int count) {
+        return many("q", count).replace(" ", "\n.latch q0 ");
+    }
+
     static int[] lutOf(GateField f, int l) {
         return new int[] {f.lut(l, 0), f.lut(l, 1), f.lut(l, 2), f.lut(l, 3), f.lut(l, 4)};
     }
@@ -118,7 +128,6 @@ abstract class Edges {
 
     static void close(String section) {
         System.out.println(wrong + " wrong of " + checks + " answers to " + QUOTED.size() + " sentences of " + section);
-        if (System.getProperty("quotes") != null) QUOTED.forEach(q -> System.out.println("QUOTE " + q));
         if (wrong > 0) System.exit(1);
     }
 }

@@ -6,8 +6,8 @@ public final class FieldEdgesTest extends Edges {
     private static final int ALWAYS = 65535;
 
     public static void main(String[] args) {
-        of("WIRES that are JOINED (by any ways) have one LEVEL: 1 if an OUT that drives one of them is 1, or the LEVEL of "
-                + "an input PAD that does; else 0.", FieldEdgesTest::levels);
+        of("WIRES that are JOINED (by any ways) have one LEVEL: 1 if an OUT that drives one of them is 1, or the "
+                + "LEVEL of an input PAD that does; else 0.", FieldEdgesTest::levels);
         of("An OUT is its latch, if that is used, else its LUT.", FieldEdgesTest::outs);
         of("A pin has the LEVEL of its wire (0 for 0, and for numbers that no wire has).", FieldEdgesTest::pins);
         of("An output PAD has that of its wire (0 likewise); another one none.", FieldEdgesTest::outputPads);
@@ -18,8 +18,8 @@ public final class FieldEdgesTest extends Edges {
                 FieldEdgesTest::restless);
         of("A TICK: it SETTLES (RESTLESS: there is none), all latches that are used take their LUTs' values.",
                 FieldEdgesTest::ticks);
-        of("Inputs have levels; a function has its value; a latch INITIAL first, at a CLOCK all take their Ds at once.",
-                FieldEdgesTest::meaning);
+        of("Inputs have levels; a function has its value; a latch INITIAL first, at a CLOCK all take their Ds at "
+                + "once.", FieldEdgesTest::meaning);
         of("The constants: `NONE = -1`: None.", () -> due("NONE", GateField.NONE, -1));
         close("THE FIELD and THE MEANING");
     }
@@ -42,6 +42,17 @@ public final class FieldEdgesTest extends Edges {
         due("a wire that is not joined", b.f.probe(0, 2), 0);
         chain();
         ring();
+        allOnes();
+    }
+
+    /** All BITS are 1: no PAD is an input, all OUTS are latches and drive all wires. */
+    private static void allOnes() {
+        Board b = new Board(2, 1, 2, 2);
+        for (int i = 0; i < b.bits(); i++) b.f.flip(i);
+        for (int p = 0; p < b.pads(); p++) b.f.level(p, true);
+        for (int w = 0; w < b.wires(); w++) due("latches 0, wire " + w, b.f.probe(0, w), 0);
+        due("a TICK", b.f.tick(1), 1);
+        for (int w = 0; w < b.wires(); w++) due("latches 1, wire " + w, b.f.probe(0, w), 1);
     }
 
     /** All flat wires below the lowest row, joined one to the next. */
@@ -110,6 +121,18 @@ public final class FieldEdgesTest extends Edges {
         for (int tracks : new int[] {1, 3, 10})
             for (int p = 0; p < 4; p++)
                 for (int number = 0; number < 64; number++) pins(tracks, p, number);
+        for (int n = 0; n < 16; n++) {
+            Board b = new Board(1, 1, 1, 1);
+            for (int side = 0; side < 4; side++) {
+                b.setPin(0, side, side, 0);
+                b.setInput(2 * side, 0, false);
+            }
+            b.setTable(0, 1 << n);
+            for (int high = 0; high < 16; high++) {
+                for (int side = 0; side < 4; side++) b.f.level(2 * side, (high >> side & 1) == 1);
+                due("bit " + n + " of the TABLE, pins " + high, b.f.probe(2, 0), high == n ? 1 : 0);
+            }
+        }
         for (int number = 1; number <= 8; number++) {
             for (int at = 0; at < 8; at++) {
                 Board b = new Board(1, 1, 1, 2);
@@ -139,6 +162,9 @@ public final class FieldEdgesTest extends Edges {
             b.setOutput(7, t);
             due("at track " + t, b.f.probe(1, 7), t == 1 ? 1 : 0);
         }
+        b.setOutput(7, 1);
+        b.set(b.padDrives(7, 0), 3, 7);
+        due("what an input would drive does not count", b.f.probe(1, 7), 1);
         for (int kind : new int[] {0, 1, 3}) {
             b.set(b.pad(7), 2, kind);
             due("kind " + kind, b.f.probe(1, 7), NONE);
@@ -246,25 +272,25 @@ public final class FieldEdgesTest extends Edges {
     }
 
     private static void meaning() {
-        GateField f = with(".inputs a\n.latch a q 1\n.latch q r\n.latch s r2\n.latch r2 s 1\n.names a q y\n11 1\n.outputs y",
-                2, 2, 2, 1);
-        row("at first", latches(f), 1, 0, 0, 1);
+        GateField f = with(".inputs a\n.latch a q 1\n.latch q r\n.latch s r2\n.latch r2 s 1\n.names a q y\n11 1\n"
+                + ".outputs y", 2, 2, 2, 1);
+        row("at first", latchesOf(f), 1, 0, 0, 1);
         due("y", f.out(0), 0);
         f.drive(0, true);
         due("y", f.out(0), 1);
         f.drive(0, false);
         f.clock(1);
-        row("a CLOCK", latches(f), 0, 1, 1, 0);
+        row("a CLOCK", latchesOf(f), 0, 1, 1, 0);
         f.clock(1);
-        row("two", latches(f), 0, 0, 0, 1);
+        row("two", latchesOf(f), 0, 0, 0, 1);
         f.drive(0, true);
         due("a latch waits for its CLOCK", f.value(200), 0);
         f.clock(1);
-        row("three", latches(f), 1, 0, 1, 0);
+        row("three", latchesOf(f), 1, 0, 1, 0);
         due("y", f.out(0), 1);
     }
 
-    private static int[] latches(GateField f) {
+    private static int[] latchesOf(GateField f) {
         return new int[] {f.value(200), f.value(201), f.value(202), f.value(203)};
     }
 }

@@ -25,8 +25,8 @@ public final class FieldPromiseEdgesTest extends Edges {
         of(19, "false if there is none such.", FieldPromiseEdgesTest::levelRefused);
         of(20, "At most n TICKS: how many there were (fewer, if it is RESTLESS).", FieldPromiseEdgesTest::tick);
         of(20, "NONE if n is not 0 .. 1000.", FieldPromiseEdgesTest::tickRefused);
-        of(21, "SETTLED, of what 0: the LEVEL of WIRE i, 1: that of PAD i, if it is an output, 2: OUT of the i-th ELEMENT "
-                + "of the field (by TILES), 3: its latch.", FieldPromiseEdgesTest::probe);
+        of(21, "SETTLED, of what 0: the LEVEL of WIRE i, 1: that of PAD i, if it is an output, 2: OUT of the i-th "
+                + "ELEMENT of the field (by TILES), 3: its latch.", FieldPromiseEdgesTest::probe);
         of(21, "NONE if there is none such (asked first)", FieldPromiseEdgesTest::probeRefused);
         of(21, "-2 if it is RESTLESS (but for what 3).", FieldPromiseEdgesTest::probeRestless);
     }
@@ -36,7 +36,8 @@ public final class FieldPromiseEdgesTest extends Edges {
                 FieldPromiseEdgesTest::drive);
         of(23, "n CLOCKS: true", FieldPromiseEdgesTest::clock);
         of(23, "false if n is not 0 .. 1000, or nothing is compiled.", FieldPromiseEdgesTest::clockRefused);
-        of(24, "The value of a SOURCE in the MEANING (that of a LUT as its TABLE says)", FieldPromiseEdgesTest::value);
+        of(24, "The value of a SOURCE in the MEANING (that of a LUT as its TABLE says)",
+                FieldPromiseEdgesTest::value);
         of(24, "NONE if there is none such.", FieldPromiseEdgesTest::noValue);
         of(25, "Output o in the MEANING; NONE if there is none such.", FieldPromiseEdgesTest::out);
     }
@@ -243,6 +244,8 @@ public final class FieldPromiseEdgesTest extends Edges {
                 for (int i : new int[] {LEAST, -1, count[what], MOST})
                     due("probe(" + what + ", " + i + ")", b.f.probe(what, i), NONE);
             for (int p = 0; p < 8; p++) due("no output " + p, b.f.probe(1, p), NONE);
+            b.f.flip(b.pad(8) + 1);
+            due("no PAD, whatever bits stand behind the last one", b.f.probe(1, 8), NONE);
             for (int kind : new int[] {1, 3}) {
                 b.set(b.pad(7), 2, kind);
                 due("kind " + kind, b.f.probe(1, 7), NONE);
@@ -318,7 +321,8 @@ public final class FieldPromiseEdgesTest extends Edges {
     }
 
     private static void value() {
-        GateField f = with(".inputs a b c d e\n.names a b c d e y\n1-1-1 1\n-0-0- 1\n00--- 1\n.latch y q 1", 2, 2, 2, 1);
+        String text = ".inputs a b c d e\n.names a b c d e y\n1-1-1 1\n-0-0- 1\n00--- 1\n.latch y q 1";
+        GateField f = with(text, 2, 2, 2, 1);
         due("the latch", f.value(200), 1);
         for (int n = 0; n < 32; n++) {
             for (int i = 0; i < 5; i++) f.drive(i, (n >> i & 1) == 1);
@@ -346,9 +350,9 @@ public final class FieldPromiseEdgesTest extends Edges {
         }
         f = with(".inputs" + many("i", 48), 6, 6, 4, 1);
         row("48 inputs", new int[] {f.value(47), f.value(48)}, 0, NONE);
-        f = with(many("q", 144).replace(" ", "\n.latch q0 "), 6, 6, 4, 1);
+        f = with(latches(144), 6, 6, 4, 1);
         row("144 latches", new int[] {f.value(343), f.value(344)}, 0, NONE);
-        f = with(many("n", 144).replace(" ", "\n.names "), 6, 6, 4, 1);
+        f = with(luts(144), 6, 6, 4, 1);
         row("144 LUTs", new int[] {f.value(543), f.value(544)}, 0, NONE);
     }
 

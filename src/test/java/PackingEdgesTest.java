@@ -13,21 +13,21 @@ public final class PackingEdgesTest extends Edges {
     private static void mapping() {
         of("SOURCES: input i is i, latch j 200 + j (both as they come in the text), LUT l 400 + l.",
                 PackingEdgesTest::sources);
-        of("A LUT has up to four pins with SOURCES, and a TABLE of 16 bits: bit n is its value for pins that have the "
-                + "bits of n (pin 0 the lowest; pins without a source are 0; the table does not depend on them).",
-                PackingEdgesTest::tables);
+        of("A LUT has up to four pins with SOURCES, and a TABLE of 16 bits: bit n is its value for pins that have "
+                + "the bits of n (pin 0 the lowest; pins without a source are 0; the table does not depend on "
+                + "them).", PackingEdgesTest::tables);
         of("INS on which it does not depend are left out", PackingEdgesTest::leftOut);
         of("if four or fewer are left: a LUT with these, in their order.", PackingEdgesTest::fourOrFewer);
-        of("Else, x being the last: the function for x 0 is MAPPED (of the others), then that for x 1, then a LUT of "
-                + "three pins: the first one's, the second one's, x; it is the second one where x is 1, else the first "
-                + "one.", PackingEdgesTest::moreThanFour);
+        of("Else, x being the last: the function for x 0 is MAPPED (of the others), then that for x 1, then a LUT "
+                + "of three pins: the first one's, the second one's, x; it is the second one where x is 1, else "
+                + "the first one.", PackingEdgesTest::moreThanFour);
         of("LUTS have their numbers as they are made; that which is made last is the SOURCE of the NAME.",
                 PackingEdgesTest::lastMade);
     }
 
     private static void packing() {
-        of("A latch whose D is a LUT that nothing else uses (no other latch, no pin, no output, by SOURCES) lies in "
-                + "that LUT's ELEMENT", PackingEdgesTest::latchInLut);
+        of("A latch whose D is a LUT that nothing else uses (no other latch, no pin, no output, by SOURCES) lies "
+                + "in that LUT's ELEMENT", PackingEdgesTest::latchInLut);
         of("each other latch has an ELEMENT of its own, behind those, as they come; its LUT is pin 0, its D (TABLE "
                 + "43690).", PackingEdgesTest::latchAlone);
         of("NETS: of each SOURCE, by its number, that a pin of an ELEMENT (of its own, too) or an output uses",
@@ -51,9 +51,9 @@ public final class PackingEdgesTest extends Edges {
         due("b", f.value(1), 1);
         f = large(".inputs" + many("i", 48) + "\n.names i47 y\n1 1");
         due("the last input that there can be", f.lut(0, 0), 47);
-        f = large(many("q", 144).replace(" ", "\n.latch q0 ") + "\n.outputs q143");
+        f = large(latches(144) + "\n.outputs q143");
         due("the last latch that there can be", f.net(1, 0), 343);
-        f = large(many("n", 144).replace(" ", "\n.names ") + "\n.outputs n143");
+        f = large(luts(144) + "\n.outputs n143");
         due("the last LUT that there can be", f.net(0, 0), 543);
     }
 
@@ -90,7 +90,8 @@ public final class PackingEdgesTest extends Edges {
         row("none, by two lines of 0", lutOf(large(EIGHT + "1------- 0\n0------- 0"), 0), NONE, NONE, NONE, NONE, 0);
         row("d, e by lines that leave them open", lutOf(large(EIGHT + "1--0---- 1\n1--11--- 1\n1--10--- 1"), 0),
                 0, NONE, NONE, NONE, SAME);
-        row("one NAME twice: both count", lutOf(large(".inputs a b\n.names a b a y\n1-0 1"), 0), 0, 0, NONE, NONE, 8738);
+        row("one NAME twice: both count", lutOf(large(".inputs a b\n.names a b a y\n1-0 1"), 0),
+                0, 0, NONE, NONE, 8738);
         due("one LUT each time", large(EIGHT + "1------1 1").look(3), 1);
     }
 
@@ -171,7 +172,8 @@ public final class PackingEdgesTest extends Edges {
     }
 
     private static void latchAlone() {
-        GateField f = large(".inputs a\n.latch a q\n.names d\n1\n.names e\n1\n.latch e r\n.latch q s\n.latch t t\n.outputs d");
+        GateField f = large(".inputs a\n.latch a q\n.names d\n1\n.names e\n1\n.latch e r\n.latch q s\n.latch t t\n"
+                + ".outputs d");
         due("elements", f.look(5), 5);
         due("a LUT", f.element(0, 1), NONE);
         due("a LUT and latch 1", f.element(1, 1), 1);
@@ -204,6 +206,11 @@ public final class PackingEdgesTest extends Edges {
         netsOf(".names x\n.latch a q\n.inputs a\n.outputs x q", 0, 200, 400);
         netsOf(".names x\n.latch x q\n.outputs x q", 200, 400);
         netsOf(".inputs a b\n.names a b x\n1- 1", 0);
+        GateField f = with(".inputs a b c d e f g h\n.names a b c d x\n1111 1\n.names e f g h y\n1111 1\n"
+                + ".names x y z\n11 1\n.names z q w\n11 1\n.latch w q", 1, 1, 4, 1);
+        due("of all inputs and of all ELEMENTS that there can be", f.look(7), 12);
+        due("the last", f.net(11, 0), 402);
+        due("its SINKS", f.net(11, 1), 1);
     }
 
     private static int[] ends(GateField f, int n) {
@@ -229,6 +236,11 @@ public final class PackingEdgesTest extends Edges {
         movePad(f, 200, 6);
         row("above column 1, right", ends(f, 0), 3, 6);
         due("two pins and two outputs", large(".inputs a\n.names a a y\n10 1\n.outputs a a").net(0, 1), 4);
+        StringBuilder full = new StringBuilder(".inputs a b c d\n.outputs").append(" a".repeat(44));
+        for (int n = 0; n < 144; n++) full.append("\n.names a b c d ").append(n).append("\n1111 1");
+        f = large(full.toString());
+        row("as many as there can be", new int[] {f.net(0, 1), f.net(1, 1), f.net(2, 1), f.net(3, 1)},
+                188, 144, 144, 144);
         due("a latch's own pin", large(".inputs a\n.latch a q\n.latch a r").net(0, 1), 2);
     }
 
@@ -248,10 +260,17 @@ public final class PackingEdgesTest extends Edges {
         first(".inputs a b\n.names a x\n1 1\n.names b u\n1 1\n.names q w\n1 1\n.latch x q", 0, 2);
         first(".inputs a b c\n.names a x\n1 1\n.names b u\n1 1\n.names c a w\n11 1", 0, 2);
         first(".inputs a b\n.names a x\n1 1\n.names b u\n1 1\n.names b w\n1 1", 0, 1);
+        first(".inputs a b c d e\n.names a b c d x\n1111 1\n.names e u\n1 1\n.names d w\n1 1", 0, 2);
+        first(".inputs a b c d e\n.names d x\n1 1\n.names e u\n1 1\n.names a b c d w\n1111 1", 0, 2);
+        first(".inputs a b c\n.names r x\n1 1\n.names a u\n1 1\n.latch b q\n.latch c r", 0, 3);
+        GateField f = with(".inputs a b c\n.names a x0\n1 1\n.names a x1\n1 1\n.names b x2\n1 1\n.names c x3\n1 1\n"
+                + ".names x2 x4\n1 1", 3, 1, 2, 1);
+        row("begins the second cluster", elementOf(f, 2), 2, NONE, 1, 0);
+        row("uses what that one makes", elementOf(f, 4), 4, NONE, 1, 1);
     }
 
     private static void clusterCounts(int made, int elements, int clusters) {
-        GateField f = with(many("n", made).replace(" ", "\n.names "), 6, 1, elements, 1);
+        GateField f = with(luts(made), 6, 1, elements, 1);
         due(made + " by " + elements, f.look(6), clusters);
         for (int e = 0; e < made; e++) {
             due("cluster of " + e, f.element(e, 2), e / elements);
@@ -267,7 +286,8 @@ public final class PackingEdgesTest extends Edges {
         clusterCounts(5, 2, 3);
         clusterCounts(6, 1, 6);
         clusterCounts(24, 4, 6);
-        GateField f = with(".inputs a b\n.names a x\n1 1\n.names b u\n1 1\n.names a w\n1 1\n.names b v\n1 1", 2, 1, 2, 1);
+        GateField f = with(".inputs a b\n.names a x\n1 1\n.names b u\n1 1\n.names a w\n1 1\n.names b v\n1 1",
+                2, 1, 2, 1);
         row("the first that is left begins the second", elementOf(f, 1), 1, NONE, 1, 0);
         row("and one is left", elementOf(f, 3), 3, NONE, 1, 1);
     }

@@ -4,17 +4,18 @@ public final class PlacingEdgesTest extends Edges {
 
     public static void main(String[] args) {
         of("TILE y * COLUMNS + x.", PlacingEdgesTest::tiles);
-        of("PADS stand two each at places: below columns 0 .. , above columns 0 .., left of rows 0 .., right of rows "
-                + "0 ..: PAD 2 k and 2 k + 1 at the k-th of these.", PlacingEdgesTest::pads);
-        of("At first CLUSTER c is on TILE c; inputs, then outputs, are at PADS 0, 1, ...", PlacingEdgesTest::atFirst);
-        of("POINTS: of a TILE (x + 1, y + 1), of PADS below (x + 1, 0), above (x + 1, ROWS + 1), left (0, y + 1), right "
-                + "(COLUMNS + 1, y + 1).", PlacingEdgesTest::points);
-        of("LENGTH: for all NETS half the way round the least rectangle with the points of its source and its SINKS in "
-                + "it.", PlacingEdgesTest::length);
+        of("PADS stand two each at places: below columns 0 .. , above columns 0 .., left of rows 0 .., right of "
+                + "rows 0 ..: PAD 2 k and 2 k + 1 at the k-th of these.", PlacingEdgesTest::pads);
+        of("At first CLUSTER c is on TILE c; inputs, then outputs, are at PADS 0, 1, ...",
+                PlacingEdgesTest::atFirst);
+        of("POINTS: of a TILE (x + 1, y + 1), of PADS below (x + 1, 0), above (x + 1, ROWS + 1), left (0, y + 1), "
+                + "right (COLUMNS + 1, y + 1).", PlacingEdgesTest::points);
+        of("LENGTH: for all NETS half the way round the least rectangle with the points of its source and its "
+                + "SINKS in it.", PlacingEdgesTest::length);
         of("A SWAP changes what is on two TILES (or PADS), and is undone if LENGTH is more than SLACK greater then.",
                 PlacingEdgesTest::swap);
-        of("A COIN c: bit 0 is 0: a SWAP of TILES (c >>> 1 & 255) and (c >>> 9 & 255), each modulo how many there are, "
-                + "SLACK c >>> 17 & 7", PlacingEdgesTest::tileCoin);
+        of("A COIN c: bit 0 is 0: a SWAP of TILES (c >>> 1 & 255) and (c >>> 9 & 255), each modulo how many there "
+                + "are, SLACK c >>> 17 & 7", PlacingEdgesTest::tileCoin);
         of("bit 0 is 1: of PADS likewise.", PlacingEdgesTest::padCoin);
         close("PLACING");
     }

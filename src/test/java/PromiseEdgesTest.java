@@ -22,9 +22,10 @@ public final class PromiseEdgesTest extends Edges {
                 PromiseEdgesTest::newObject);
         of(2, "Puts twenty bytes ready, those of a first, the highest of each first.", PromiseEdgesTest::ready);
         of(2, "(They are 0 at first, and behind each end() that answers a number.)", PromiseEdgesTest::zeroBytes);
-        of(3, "The first n of the bytes that are ready come to the tape: how many it has.", PromiseEdgesTest::firstBytes);
-        of(3, "NONE, and nothing comes, if n is not 0 .. 20, it would have more than 4000, or one of them may not be in a "
-                + "TEXT.", PromiseEdgesTest::refusedBytes);
+        of(3, "The first n of the bytes that are ready come to the tape: how many it has.",
+                PromiseEdgesTest::firstBytes);
+        of(3, "NONE, and nothing comes, if n is not 0 .. 20, it would have more than 4000, or one of them may not "
+                + "be in a TEXT.", PromiseEdgesTest::refusedBytes);
     }
 
     private static void compiling() {
@@ -37,12 +38,12 @@ public final class PromiseEdgesTest extends Edges {
 
     private static void looking() {
         of(5, "What 0: place of the latest compile()'s FAULT (NONE without)", PromiseEdgesTest::lookPlace);
-        of(5, "1: inputs, 2: latches, 3: LUTS, 4: outputs, 5: ELEMENTS, 6: CLUSTERS, 7: NETS, 8: LENGTH (1 to 8: NONE if "
-                + "nothing is compiled)", PromiseEdgesTest::lookCompiled);
+        of(5, "1: inputs, 2: latches, 3: LUTS, 4: outputs, 5: ELEMENTS, 6: CLUSTERS, 7: NETS, 8: LENGTH (1 to 8: "
+                + "NONE if nothing is compiled)", PromiseEdgesTest::lookCompiled);
         of(5, "9: PADS, 10: WIRES, 11: BITS of the field", PromiseEdgesTest::lookField);
         of(5, "12: 0 nothing compiled, 1 nothing routed, 2 routed", PromiseEdgesTest::lookState);
-        of(5, "13: ROUNDS of the routing that stands (one more than there might be, if each NET has a track; 0 without "
-                + "one)", PromiseEdgesTest::lookRounds);
+        of(5, "13: ROUNDS of the routing that stands (one more than there might be, if each NET has a track; 0 "
+                + "without one)", PromiseEdgesTest::lookRounds);
         of(5, "14: WIRES that NETS have (0 without one)", PromiseEdgesTest::lookWires);
         of(5, "15: CLOCKS since the latest compile()", PromiseEdgesTest::lookClocks);
         of(5, "16: TICKS since the field was started.", PromiseEdgesTest::lookTicks);
@@ -52,10 +53,10 @@ public final class PromiseEdgesTest extends Edges {
     private static void asking() {
         of(6, "Of LUT l what 0 to 3: the SOURCE of a pin, 4: its TABLE. NONE if there is none such.",
                 PromiseEdgesTest::lut);
-        of(7, "Of an ELEMENT what 0: its LUT, 1: its latch, 2: its CLUSTER, 3: its place in that, from 0. NONE if there is "
-                + "none such.", PromiseEdgesTest::element);
-        of(8, "Of NET n what 0: its SOURCE, 1: how many SINKS, 2: how many WIRES it has (0 if nothing is routed), 3 and "
-                + "above: the END of SINK what - 3 (NONE if nothing is routed).", PromiseEdgesTest::net);
+        of(7, "Of an ELEMENT what 0: its LUT, 1: its latch, 2: its CLUSTER, 3: its place in that, from 0. NONE if "
+                + "there is none such.", PromiseEdgesTest::element);
+        of(8, "Of NET n what 0: its SOURCE, 1: how many SINKS, 2: how many WIRES it has (0 if nothing is routed), "
+                + "3 and above: the END of SINK what - 3 (NONE if nothing is routed).", PromiseEdgesTest::net);
         of(8, "NONE if there is none such.", PromiseEdgesTest::noNet);
         of(9, "The CLUSTER on a TILE; NONE if there is none such, or none on it.", PromiseEdgesTest::tile);
         of(10, "What is at a PAD: input i: i, output o: 200 + o; NONE if there is none such, or nothing.",
@@ -77,10 +78,12 @@ public final class PromiseEdgesTest extends Edges {
         of(13, "Routes, in at most so many ROUNDS: how many it took", PromiseEdgesTest::rounds);
         of(13, "one more than these if each NET has a track", PromiseEdgesTest::oneMore);
         of(13, "0, and nothing is routed, if it can't be.", PromiseEdgesTest::cannotBe);
-        of(13, "NONE, and all stays, if rounds is not 1 .. 20, or nothing is compiled.", PromiseEdgesTest::routeRefused);
+        of(13, "NONE, and all stays, if rounds is not 1 .. 20, or nothing is compiled.",
+                PromiseEdgesTest::routeRefused);
         of(14, "The NET that has a WIRE; NONE if there is none such, nothing is routed, or none has it.",
                 PromiseEdgesTest::owner);
-        of(15, "BURNS what is routed; the field is started: all latches INITIAL as its BITS say.", PromiseEdgesTest::burn);
+        of(15, "BURNS what is routed; the field is started: all latches INITIAL as its BITS say.",
+                PromiseEdgesTest::burn);
         of(15, "False, and all stays, if nothing is routed.", PromiseEdgesTest::burnRefused);
     }
 
@@ -257,6 +260,14 @@ public final class PromiseEdgesTest extends Edges {
         due("a smaller one", Texts.compile(f, ".outputs a\n.inputs a"), 0);
         row("pads", padsOf(f), 0, 200, NONE, NONE, NONE, NONE, NONE, NONE, NONE, NONE, NONE, NONE);
         due("no CLUSTER", f.tile(0), NONE);
+        f = with(".inputs a b\n.outputs a b", 1, 1, 1, 2);
+        due("wires for two", f.route(20), 2);
+        due("a smaller one", Texts.compile(f, ".inputs a\n.outputs a"), 0);
+        due("wires for one", f.route(1), 1);
+        due("wires for one", f.look(14), 1);
+        f = with(".inputs a b\n.names a b x\n11 1", 2, 2, 2, 1);
+        due("once more", Texts.compile(f, ".inputs a b\n.names a x\n1 1\n.names b u\n1 1\n.names a w\n1 1"), 0);
+        row("packed as at first", elementOf(f, 2), 2, NONE, 0, 1);
     }
 
     private static void nothingCompiled() {
@@ -269,7 +280,7 @@ public final class PromiseEdgesTest extends Edges {
         due("drive", f.drive(0, true), false);
         due("clock", f.clock(0), false);
         due("burn", f.burn(), false);
-        due("FAULT 6", Texts.compile(f, many("n", 5).replace(" ", "\n.names ")), 6);
+        due("FAULT 6", Texts.compile(f, luts(5)), 6);
         due("look(12)", f.look(12), 0);
         row("none", new int[] {f.lut(0, 4), f.element(0, 2), f.value(400), f.look(3), f.look(5)},
             NONE, NONE, NONE, NONE, NONE);
@@ -278,12 +289,10 @@ public final class PromiseEdgesTest extends Edges {
 
     private static void fresh() {
         GateField f = routed();
+        f.clock(1);
         f.drive(0, true);
         f.drive(1, true);
-        f.clock(1);
-        f.drive(0, false);
-        f.clock(1);
-        due("the latch", f.value(200), 0);
+        row("y and the latch", new int[] {f.value(400), f.value(200)}, 1, 0);
         due("once more", Texts.compile(f, AND), 0);
         due("nothing routed", f.look(12), 1);
         due("no wire", f.owner(0), NONE);
@@ -324,7 +333,7 @@ public final class PromiseEdgesTest extends Edges {
         due("without a FAULT", f.look(0), NONE);
         Texts.compile(f, ".outputs a");
         due("a FAULT", f.look(0), 9);
-        Texts.compile(f, many("n", 5).replace(" ", "\n.names "));
+        Texts.compile(f, luts(5));
         due("FAULT 6", f.look(0), NONE);
     }
 
@@ -336,10 +345,10 @@ public final class PromiseEdgesTest extends Edges {
         for (int k = 1; k <= 8; k++) due("look(" + k + ")", f.look(k), want[k - 1]);
         f = with("", 1, 1, 1, 1);
         for (int k = 1; k <= 8; k++) due("an empty TEXT: look(" + k + ")", f.look(k), 0);
-        f = with(".inputs" + many("i", 24) + "\n.outputs" + many("i", 24) + many("n", 126).replace(" ", "\n.names "),
+        f = with(".inputs" + many("i", 24) + "\n.outputs" + many("i", 24) + luts(126),
                 6, 6, 4, 1);
-        row("150 NAMES, all PADS", new int[] {f.look(1), f.look(2), f.look(3), f.look(4), f.look(5), f.look(6), f.look(7)},
-                24, 0, 126, 24, 126, 32, 24);
+        int[] full = {24, 0, 126, 24, 126, 32, 24};
+        for (int k = 1; k <= 7; k++) due("150 NAMES, all PADS: look(" + k + ")", f.look(k), full[k - 1]);
     }
 
     private static void lookField() {
@@ -461,7 +470,7 @@ public final class PromiseEdgesTest extends Edges {
         for (int l : new int[] {LEAST, -1, 2, 400, MOST}) due("lut " + l, f.lut(l, 4), NONE);
         for (int k : new int[] {LEAST, -1, 5, MOST}) due("what " + k, f.lut(0, k), NONE);
         due("nothing compiled", nothing().lut(0, 0), NONE);
-        f = with(many("n", 144).replace(" ", "\n.names "), 6, 6, 4, 1);
+        f = with(luts(144), 6, 6, 4, 1);
         due("the last that there can be", f.lut(143, 4), 0);
         due("behind it", f.lut(144, 4), NONE);
         Texts.compile(f, ".latch q q");
@@ -476,19 +485,22 @@ public final class PromiseEdgesTest extends Edges {
         for (int e : new int[] {LEAST, -1, 2, MOST}) due("element " + e, f.element(e, 2), NONE);
         for (int k : new int[] {LEAST, -1, 4, MOST}) due("what " + k, f.element(0, k), NONE);
         due("nothing compiled", nothing().element(0, 2), NONE);
-        f = with(many("n", 144).replace(" ", "\n.names "), 6, 6, 4, 1);
+        f = with(luts(144), 6, 6, 4, 1);
         row("the last that there can be", elementOf(f, 143), 143, NONE, 35, 3);
         due("behind it", f.element(144, 2), NONE);
     }
 
+    private static int[] netOf(GateField f, int n) {
+        return new int[] {f.net(n, 0), f.net(n, 1), f.net(n, 2), f.net(n, 3), f.net(n, 4)};
+    }
+
     private static void net() {
         GateField f = and();
-        row("nothing routed", new int[] {f.net(3, 0), f.net(3, 1), f.net(3, 2), f.net(3, 3), f.net(3, 4)},
-                400, 2, 0, NONE, NONE);
+        row("nothing routed", netOf(f, 3), 400, 2, 0, NONE, NONE);
         f.route(20);
-        row("routed", new int[] {f.net(3, 0), f.net(3, 1), f.net(3, 2), f.net(3, 3), f.net(3, 4)}, 400, 2, 3, 4, 2);
+        row("routed", netOf(f, 3), 400, 2, 3, 4, 2);
         f.swap(true, 0, 0, 0);
-        row("no more", new int[] {f.net(3, 0), f.net(3, 1), f.net(3, 2), f.net(3, 3), f.net(3, 4)}, 400, 2, 0, NONE, NONE);
+        row("no more", netOf(f, 3), 400, 2, 0, NONE, NONE);
         f = with(".inputs a\n.outputs" + " a".repeat(47), 6, 6, 1, 1);
         f.route(1);
         due("many SINKS", f.net(0, 1), 47);
@@ -512,7 +524,7 @@ public final class PromiseEdgesTest extends Edges {
         due("none on it", f.tile(1), NONE);
         for (int t : new int[] {LEAST, -1, 2, MOST}) due("tile " + t, f.tile(t), NONE);
         due("nothing compiled", nothing().tile(0), NONE);
-        f = with(many("n", 36).replace(" ", "\n.names "), 6, 6, 1, 1);
+        f = with(luts(36), 6, 6, 1, 1);
         due("the last", f.tile(35), 35);
         due("behind it", f.tile(36), NONE);
     }
@@ -585,7 +597,7 @@ public final class PromiseEdgesTest extends Edges {
 
     /** COINS 0, 12345, -740551042, -1492899873: TILES 0, 0; PADS 28, 24; TILES 27, 11; PADS 239 and 19 of 48. */
     private static void coins() {
-        String text = ".inputs" + many("i", 48) + many("n", 36).replace(" ", "\n.names ");
+        String text = ".inputs" + many("i", 48) + luts(36);
         int[][] swapped = {{0, 0}, {28, 24}, {27, 11}, {47, 19}};
         for (int n = 0; n <= 4; n++) {
             GateField f = with(text, 6, 6, 1, 1);
@@ -685,12 +697,19 @@ public final class PromiseEdgesTest extends Edges {
         f.start();
         f.tick(3);
         due("a latch of other bits", f.probe(3, 0), 1);
+        f.level(0, true);
+        f.level(1, true);
+        due("no output of other bits", f.probe(1, 2), NONE);
+        due("a wire of other bits", f.probe(0, 0), 0);
         f.route(20);
         due("burn", f.burn(), true);
+        due("the output y", f.probe(1, 2), 1);
+        due("the wire of a", f.probe(0, 0), 1);
         due("TABLE", f.bit(3), 1);
         due("a bit that was turned", f.bit(100), 0);
         due("started", f.look(16), 0);
         row("latches", new int[] {f.probe(3, 0), f.probe(3, 1), f.probe(3, 2), f.probe(3, 3)}, 0, 1, 0, 0);
+        f.level(0, false);
         f.tick(1);
         due("its latch", f.probe(3, 1), 0);
         due("burn once more", f.burn(), true);

@@ -12,13 +12,13 @@ public final class RoutingEdgesTest extends Edges {
     private static void wires() {
         of("H(x, y, t) below TILE (x, y) (above the highest row for y = ROWS), track t: number (y * COLUMNS + x) * "
                 + "TRACKS + t", RoutingEdgesTest::flatWires);
-        of("behind all these V(x, y, t) left of TILE (x, y) (right of the last column for x = COLUMNS): (y * (COLUMNS + "
-                + "1) + x) * TRACKS + t more.", RoutingEdgesTest::uprightWires);
-        of("Two WIRES of one track are NEIGHBOURS if they meet at a CORNER: corner (x, y) is the left end of H(x, y), the "
-                + "right one of H(x - 1, y), the lower end of V(x, y), the upper one of V(x, y - 1).",
+        of("behind all these V(x, y, t) left of TILE (x, y) (right of the last column for x = COLUMNS): (y * "
+                + "(COLUMNS + 1) + x) * TRACKS + t more.", RoutingEdgesTest::uprightWires);
+        of("Two WIRES of one track are NEIGHBOURS if they meet at a CORNER: corner (x, y) is the left end of H(x, "
+                + "y), the right one of H(x - 1, y), the lower end of V(x, y), the upper one of V(x, y - 1).",
                 RoutingEdgesTest::neighbours);
-        of("A TILE TOUCHES the WIRES below, above, left and right of it (SIDES 0 to 3), all tracks; a PAD those between "
-                + "it and the field.", RoutingEdgesTest::touches);
+        of("A TILE TOUCHES the WIRES below, above, left and right of it (SIDES 0 to 3), all tracks; a PAD those "
+                + "between it and the field.", RoutingEdgesTest::touches);
     }
 
     private static void rounds() {
@@ -27,18 +27,20 @@ public final class RoutingEdgesTest extends Edges {
         of("a WIRE has a COST (1 + PAST) * (1 + (r - 1) * OTHERS), OTHERS being how many other NETS have it",
                 RoutingEdgesTest::cost);
         of("a WIRE that the NET has is at distance 0", RoutingEdgesTest::hadAlready);
-        of("any other one at its COST and, if the source TOUCHES it, nothing more, else (or if that is less) the least "
-                + "distance of a NEIGHBOUR.", RoutingEdgesTest::distance);
+        of("any other one at its COST and, if the source TOUCHES it, nothing more, else (or if that is less) the "
+                + "least distance of a NEIGHBOUR.", RoutingEdgesTest::distance);
         of("The SINK's END is that of the WIRES it TOUCHES that is nearest (of those the least number).",
                 RoutingEdgesTest::end);
-        of("From there back: the NET gets the WIRE, unless it has it; if it had it, it is done; if the source TOUCHES it "
-                + "and its distance is its COST, the source DRIVES it, and it is done", RoutingEdgesTest::driven);
-        of("else it is JOINED with the NEIGHBOUR whose distance is less by its COST (the least number), and that is next.",
-                RoutingEdgesTest::joined);
+        of("From there back: the NET gets the WIRE, unless it has it; if it had it, it is done; if the source "
+                + "TOUCHES it and its distance is its COST, the source DRIVES it, and it is done",
+                RoutingEdgesTest::driven);
+        of("else it is JOINED with the NEIGHBOUR whose distance is less by its COST (the least number), and that "
+                + "is next.", RoutingEdgesTest::joined);
         of("Behind a ROUND the routing is done if no WIRE is had by two NETS", RoutingEdgesTest::done);
         of("else PAST (0 at first) of each that is had by n of them becomes n - 1 more.", RoutingEdgesTest::past);
-        of("If it is not done in as many ROUNDS as it may have, and there are at most TRACKS NETS: all WIRES are given "
-                + "up, each NET n is routed once more, with WIRES of track n alone, COST 1.", RoutingEdgesTest::tracks);
+        of("If it is not done in as many ROUNDS as it may have, and there are at most TRACKS NETS: all WIRES are "
+                + "given up, each NET n is routed once more, with WIRES of track n alone, COST 1.",
+                RoutingEdgesTest::tracks);
         of("(Without NETS ROUND 1 does it.)", RoutingEdgesTest::withoutNets);
     }
 
@@ -57,7 +59,7 @@ public final class RoutingEdgesTest extends Edges {
     /** The number of the one wire that has LEVEL 1; -2 if there are more. */
     private static int onlyHigh(Board b) {
         int only = NONE;
-        for (int w = 0; w < b.f.look(10); w++) if (b.f.probe(0, w) == 1) only = only == NONE ? w : -2;
+        for (int w = 0; w < b.wires(); w++) if (b.f.probe(0, w) == 1) only = only == NONE ? w : -2;
         return only;
     }
 
@@ -73,7 +75,7 @@ public final class RoutingEdgesTest extends Edges {
                 }
             }
         }
-        due("the last one of the largest", wireOfPad(6, 6, 10, 23, 9), 419);
+        lastWire(23, 419);
     }
 
     private static void uprightWires() {
@@ -84,11 +86,20 @@ public final class RoutingEdgesTest extends Edges {
                 for (int x = 0; x < 3; x++) {
                     int tile = y * 3 + x;
                     due("left of tile " + tile, wireOfTile(3, 2, 2, tile, Board.LEFT, t), 18 + (y * 4 + x) * 2 + t);
-                    due("right of tile " + tile, wireOfTile(3, 2, 2, tile, Board.RIGHT, t), 18 + (y * 4 + x + 1) * 2 + t);
+                    due("right of tile " + tile, wireOfTile(3, 2, 2, tile, Board.RIGHT, t),
+                            18 + (y * 4 + x + 1) * 2 + t);
                 }
             }
         }
-        due("the last one of the largest", wireOfPad(6, 6, 10, 47, 9), 839);
+        lastWire(47, 839);
+    }
+
+    /** The last track of a pad of the largest field. */
+    private static void lastWire(int p, int wire) {
+        Board b = new Board(6, 6, 4, 10);
+        b.setInput(p, 9, true);
+        for (int w = wire - 100; w <= Math.min(wire + 100, 839); w++)
+            due("wire " + w, b.f.probe(0, w), w == wire ? 1 : 0);
     }
 
     /** Routes an input at one pad to an output at another: the wires, in order of their numbers. */
@@ -165,11 +176,30 @@ public final class RoutingEdgesTest extends Edges {
         f = with(THREE, 1, 1, 1, 3);
         due("one NET after the other, not all at once", f.route(20), 3);
         row("owners", ownersOf(f), 1, 0, NONE, NONE, 0, 2, 1, 0, 2, NONE, NONE, NONE);
+        for (int[] k : new int[][] {{6, 6, 2}, {4, 5, 3}, {1, 6, 10}}) besideAll(k[0], k[1], k[2]);
+    }
+
+    /** a and b from each place to the next one of its side: on track 0 first, then on 1 and, if there is one, 2. */
+    private static void besideAll(int columns, int rows, int tracks) {
+        Board b = new Board(columns, rows, 1, tracks);
+        int other = tracks > 2 ? 2 : 0;
+        int[] sides = {0, columns, 2 * columns, 2 * columns + rows, 2 * columns + 2 * rows};
+        for (int side = 0; side < 4; side++) {
+            for (int k = sides[side]; k + 1 < sides[side + 1]; k++) {
+                GateField f = with(PAIR, columns, rows, 1, tracks);
+                int[] what = {0, 1, 200, 201};
+                for (int i = 0; i < 4; i++) movePad(f, what[i], 2 * k + i);
+                due("ROUNDS at place " + k, f.route(20), 2);
+                for (int p = 2 * k; p < 2 * k + 4; p += 2)
+                    row("at place " + k, new int[] {f.owner(b.padWire(p, 1)), f.owner(b.padWire(p, other))}, 0, 1);
+                due("wires", f.look(14), 4);
+            }
+        }
     }
 
     /**
-     * One tile, two tracks. ROUND 1: a from the right to above and left has 6, 2, 4, b from below to the left 0, 4: PAST
-     * of 4 is 1. ROUND 2: for a 4 COSTS (1 + 1) * (1 + 1), more than the way 7, 1, 5.
+     * One tile, two tracks. ROUND 1: a from the right to above and left has 6, 2, 4, b from below to the left 0, 4:
+     * PAST of 4 is 1. ROUND 2: for a 4 COSTS (1 + 1) * (1 + 1), more than the way 7, 1, 5.
      */
     private static void cost() {
         GateField f = with(".inputs a b\n.outputs a b a", 1, 1, 1, 2);
@@ -286,6 +316,11 @@ public final class RoutingEdgesTest extends Edges {
         due("two NETS apart", f.route(20), 1);
         row("owners", ownersOf(f), 0, NONE, 1, NONE);
         due("one wire for two", with(".inputs a b\n.outputs a b", 1, 1, 1, 1).route(20), 0);
+        due("wire 0 alone for two", with(".inputs a b\n.names a b y\n11 1", 1, 1, 1, 1).route(20), 0);
+        f = with(".inputs a b\n.names a b y\n11 1", 1, 1, 1, 1);
+        movePad(f, 0, 6);
+        movePad(f, 1, 7);
+        due("the last wire alone for two", f.route(20), 0);
         due("two ROUNDS", pair().look(13), 2);
         f = with(PAIR, 1, 1, 1, 2);
         due("done in the last ROUND that there may be", f.route(2), 2);
@@ -293,9 +328,9 @@ public final class RoutingEdgesTest extends Edges {
     }
 
     /**
-     * One tile, two tracks: a and b from below to above, c from left to left. ROUND 1: 0 and 2 are had by two, 4 by all
-     * three: PAST 1, 1, 2. ROUND 2: a has 1, 5, 3, b 0, 6, 2; for c 4 COSTS 3, 5 COSTS 2: PAST of 5 is 1. ROUND 3: a has
-     * 1, 7, 3.
+     * One tile, two tracks: a and b from below to above, c from left to left. ROUND 1: 0 and 2 are had by two, 4 by
+     * all three: PAST 1, 1, 2. ROUND 2: a has 1, 5, 3, b 0, 6, 2; for c 4 COSTS 3, 5 COSTS 2: PAST of 5 is 1.
+     * ROUND 3: a has 1, 7, 3.
      */
     private static void past() {
         GateField f = with(THREE, 1, 1, 1, 2);
@@ -328,6 +363,11 @@ public final class RoutingEdgesTest extends Edges {
         due("wires", f.look(14), had);
         int[] owners = ownersOf(f);
         for (int w = 0; w < owners.length; w++) if (owners[w] != NONE) due("track of wire " + w, w % 10, owners[w]);
+        f = with(".inputs" + many("i", 5) + "\n.outputs" + many("i", 5), 1, 4, 1, 5);
+        movePad(f, 4, 18);
+        movePad(f, 204, 19);
+        due("five NETS, five tracks", f.route(1), 2);
+        row("the last one has the last wire", new int[] {f.net(4, 2), f.net(4, 3), f.owner(64)}, 1, 64, 4);
         due("ten NETS, nine tracks", with(ten, 3, 2, 1, 9).route(1), 0);
         f = with(THREE, 1, 1, 1, 3);
         due("not done in two", f.route(2), 3);

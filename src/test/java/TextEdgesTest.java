@@ -52,14 +52,14 @@ public final class TextEdgesTest extends Edges {
         of("4 a NAME that nothing makes, where it is used first (of all these the first place).",
                 TextEdgesTest::notMade);
         of("5 (at the word .names) of the .names in the text that have no NUMBER the first", TextEdgesTest::loops);
-        of(".names get NUMBERS one by one, each time the first in the text without one, all INS of which are inputs, "
-                + "Qs or made by one with a NUMBER.", TextEdgesTest::numbers);
+        of(".names get NUMBERS one by one, each time the first in the text without one, all INS of which are "
+                + "inputs, Qs or made by one with a NUMBER.", TextEdgesTest::numbers);
         of("6 more ELEMENTS (see there) than the field has (place NONE).", TextEdgesTest::tooManyElements);
     }
 
     private static void covers() {
-        of("A COVER with 1s says where its function is 1: where the INS are as in one of its lines (- any; "
-                + "INS that are one NAME twice count as two)", TextEdgesTest::ones);
+        of("A COVER with 1s says where its function is 1: where the INS are as in one of its lines (- any; INS "
+                + "that are one NAME twice count as two)", TextEdgesTest::ones);
         of("with 0s likewise where it is 0", TextEdgesTest::zeros);
         of("without lines it is 0.", TextEdgesTest::noLines);
     }
@@ -176,6 +176,11 @@ public final class TextEdgesTest extends Edges {
         due("without INS", good(".names y").look(3), 1);
         due("one", good(ONE_IN).look(3), 1);
         due("eight", good(EIGHT + ".names a b c d e f g h y\n11111111 1").look(3), 9);
+        for (String line : new String[] {"11111111 0\n", "00000000 1\n"}) {
+            GateField f = good(EIGHT + ".names a b c d e f g h y\n" + line + ".names a b c d e f g h z\n");
+            row("one of eight behind it, without lines", lutOf(f, 9), NONE, NONE, NONE, NONE, 0);
+            due("no more LUTs", f.look(3), 10);
+        }
         due("eight times the same one", good(".inputs a\n.names a a a a a a a a y\n11111111 1").look(3), 9);
         fault(2, EIGHT + ".names a b c d e f g h ^a y\n");
     }
@@ -261,6 +266,8 @@ public final class TextEdgesTest extends Edges {
         fault(1, ".outputs#^\n");
         fault(1, ".latch # d q^");
         fault(1, ".latch d \t^\nq");
+        fault(1, ".inputs a\n.latch^");
+        fault(1, ".inputs a\n.latch a^\n");
         fault(1, ".latch d#q^\n");
         fault(1, ".names # y^\n");
         fault(1, ONE_IN + "1^");
@@ -315,7 +322,7 @@ public final class TextEdgesTest extends Edges {
 
     /** 150 NAMES: so many inputs, the rest made by .names without INS. */
     private static String full(int inputs) {
-        return ".inputs" + many("i", inputs) + "\n" + many("n", 150 - inputs).replace(" ", ".names ").replace(".", "\n.");
+        return ".inputs" + many("i", inputs) + luts(150 - inputs);
     }
 
     private static void tooManyNames() {
@@ -404,6 +411,9 @@ public final class TextEdgesTest extends Edges {
         fault(5, "^.names l x\n.names l l");
         fault(5, ".names k\n^.names x k l\n.names l x");
         good(".latch y q\n.names q y\n0 1");
+        StringBuilder ring = new StringBuilder("^");
+        for (int n = 0; n < 150; n++) ring.append(".names n").append((n + 1) % 150).append(" n").append(n).append("\n");
+        fault(5, ring.toString());
     }
 
     private static void numbers() {
@@ -432,12 +442,12 @@ public final class TextEdgesTest extends Edges {
         fault(least, 6, five + "11111 1");
         fault(new GateField(2, 1, 1, 1), 6, five + "11111 1");
         fault(new GateField(3, 1, 1, 1), 0, five + "11111 1");
-        fault(0, many("n", 144).replace(" ", "\n.names "));
-        fault(6, many("n", 145).replace(" ", "\n.names "));
-        fault(0, many("q", 144).replace(" ", "\n.latch q0 "));
-        fault(6, many("q", 145).replace(" ", "\n.latch q0 "));
-        fault(0, many("n", 143).replace(" ", "\n.names ") + "\n.latch q q");
-        fault(6, many("n", 143).replace(" ", "\n.names ") + "\n.latch n0 q\n.latch n0 r");
+        fault(0, luts(144));
+        fault(6, luts(145));
+        fault(0, latches(144));
+        fault(6, latches(145));
+        fault(0, luts(143) + "\n.latch q q");
+        fault(6, luts(143) + "\n.latch n0 q\n.latch n0 r");
     }
 
     /** The output y for all levels of the inputs, input 0 being the lowest bit. */
