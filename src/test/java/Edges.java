@@ -13,6 +13,9 @@ abstract class Edges {
     static final int LEAST = Integer.MIN_VALUE;
     static final int MOST = Integer.MAX_VALUE;
 
+    /** On 2 x 1 tiles, 2 elements, 2 tracks: LUT y, and latch q in an element of its own; NETS a, b, q, y. */
+    static final String AND = ".inputs a b\n.outputs y q\n.names a b y\n11 1\n.latch y q 1\n.end\n";
+
     private static final Path DOCUMENT = Path.of("../shared/DOC.md");
     private static final Set<String> QUOTED = new HashSet<>();
     private static String document;
@@ -79,6 +82,23 @@ abstract class Edges {
     static GateField with(String text, int columns, int rows, int elements, int tracks) {
         GateField f = new GateField(columns, rows, elements, tracks);
         due("compile of " + text, Texts.compile(f, text), 0);
+        return f;
+    }
+
+    static GateField and() {
+        return with(AND, 2, 1, 2, 2);
+    }
+
+    static GateField routed() {
+        GateField f = and();
+        due("route(20)", f.route(20), 3);
+        return f;
+    }
+
+    /** An object that had a text, but has none any more. */
+    static GateField faulty() {
+        GateField f = routed();
+        due("a FAULT", Texts.compile(f, ".what"), 1);
         return f;
     }
 

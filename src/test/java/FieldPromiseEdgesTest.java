@@ -1,6 +1,5 @@
 /** Boundary cases of the promises 16 to 25, that are of the field's bits, of its run and of the meaning. */
 public final class FieldPromiseEdgesTest extends Edges {
-    private static final String AND = ".inputs a b\n.outputs y q\n.names a b y\n11 1\n.latch y q 1\n.end\n";
     private static final int NOT = 21845;
     private static final int ALWAYS = 65535;
 
@@ -42,20 +41,9 @@ public final class FieldPromiseEdgesTest extends Edges {
         of(25, "Output o in the MEANING; NONE if there is none such.", FieldPromiseEdgesTest::out);
     }
 
-    private static GateField and() {
-        return with(AND, 2, 1, 2, 2);
-    }
-
     private static GateField burnt() {
-        GateField f = and();
-        due("route(20)", f.route(20), 3);
+        GateField f = routed();
         due("burn", f.burn(), true);
-        return f;
-    }
-
-    private static GateField faulty() {
-        GateField f = and();
-        due("a FAULT", Texts.compile(f, ".what"), 1);
         return f;
     }
 

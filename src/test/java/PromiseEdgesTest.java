@@ -1,7 +1,5 @@
 /** Boundary cases of the promises 1 to 15, that are of the text and of what it becomes. */
 public final class PromiseEdgesTest extends Edges {
-    /** On 2 x 1 tiles, 2 elements, 2 tracks: LUT y, and latch q in an element of its own; NETS a, b, q, y. */
-    private static final String AND = ".inputs a b\n.outputs y q\n.names a b y\n11 1\n.latch y q 1\n.end\n";
     private static final int BLANKS = 0x20202020;
 
     public static void main(String[] args) {
@@ -87,24 +85,8 @@ public final class PromiseEdgesTest extends Edges {
         of(15, "False, and all stays, if nothing is routed.", PromiseEdgesTest::burnRefused);
     }
 
-    private static GateField and() {
-        return with(AND, 2, 1, 2, 2);
-    }
-
-    private static GateField routed() {
-        GateField f = and();
-        due("route(20)", f.route(20), 3);
-        return f;
-    }
-
     private static GateField nothing() {
         return new GateField(2, 1, 2, 2);
-    }
-
-    private static GateField faulty() {
-        GateField f = routed();
-        due("a FAULT", Texts.compile(f, ".what"), 1);
-        return f;
     }
 
     /** The 512th call has its answer as the first one has. */
